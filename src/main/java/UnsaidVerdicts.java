@@ -600,7 +600,7 @@ public final class UnsaidVerdicts {
             }
         }
 
-        /** Lets a panel think over until its verdict is another one; changes the jurors, so it is for a copy of them. */
+        /** Lets a panel think over until its verdict is another one. It changes the jurors: it is for a copy of them. */
         int thoughtsToTurn(int panel, int merit) {
             int atFirst = verdictByCount(panel, merit);
             for (int times = 1; times <= MOST_THOUGHTS; times++) {
