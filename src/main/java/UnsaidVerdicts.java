@@ -3,6 +3,9 @@ import java.util.NoSuchElementException;
 /**
  * A court of second thoughts: jurors and cases, panels of three, verdicts that are said and unsaid, appeals, clerks
  * who take cases from the roll by night, orders in words, undo and a snapshot.
+ *
+ * The methods of the face look at what they are given, and throw ahead of all that they change: so there is nothing to
+ * be caught, and the classes inside may trust their arguments.
  */
 public final class UnsaidVerdicts {
     private static final int MOST_JURORS = 9;
@@ -62,11 +65,9 @@ public final class UnsaidVerdicts {
     private boolean hasSnapshot = false;
     private int errorAt = NONE;
 
-    /** Creates a court without jurors and cases, with one clerk, in the night 0. */
     public UnsaidVerdicts() {
     }
 
-    /** Lets a juror come, and returns the number of the juror. */
     public int juror(int leaning, int doubt) throws IllegalArgumentException, UnsupportedOperationException {
         if (!isJurorRight(leaning, doubt)) {
             throw new IllegalArgumentException("a leaning is from -9 to 9, a doubt from 0 to 9");
@@ -78,7 +79,6 @@ public final class UnsaidVerdicts {
         return court.jurors.add(leaning, doubt);
     }
 
-    /** Brings a case, and returns its number. */
     public int bring(int merit, int term) throws IllegalArgumentException, UnsupportedOperationException {
         if (!isCaseRight(merit, term)) {
             throw new IllegalArgumentException("a merit is from 0 to 100, a term from 0 to 99");
@@ -90,7 +90,6 @@ public final class UnsaidVerdicts {
         return court.cases.add(merit, term);
     }
 
-    /** Calls a panel for a case, and returns it as a set. */
     public int call(int number) throws IndexOutOfBoundsException, UnsupportedOperationException {
         if (!court.cases.has(number)) {
             throw new IndexOutOfBoundsException("there is no such case");
@@ -102,7 +101,6 @@ public final class UnsaidVerdicts {
         return court.callPanel(number);
     }
 
-    /** Lets the panel of a case vote, and returns the verdict. */
     public int vote(int number) throws IndexOutOfBoundsException, UnsupportedOperationException {
         if (!court.cases.has(number)) {
             throw new IndexOutOfBoundsException("there is no such case");
@@ -114,7 +112,6 @@ public final class UnsaidVerdicts {
         return court.sayVerdict(number);
     }
 
-    /** Unsays the verdict of a case, and returns how many leanings change by that. */
     public int unsay(int number) throws IndexOutOfBoundsException, UnsupportedOperationException {
         if (!court.cases.has(number)) {
             throw new IndexOutOfBoundsException("there is no such case");
@@ -126,7 +123,6 @@ public final class UnsaidVerdicts {
         return court.unsayVerdict(number);
     }
 
-    /** Appeals the verdict of a case, and returns the verdict then. */
     public int appeal(int number) throws IndexOutOfBoundsException, UnsupportedOperationException {
         if (!court.cases.has(number)) {
             throw new IndexOutOfBoundsException("there is no such case");
@@ -138,7 +134,6 @@ public final class UnsaidVerdicts {
         return court.voteAnew(number);
     }
 
-    /** Lets another clerk come, and returns how many there are then. */
     public int clerk() throws UnsupportedOperationException {
         if (refusals.ofClerk(court)) {
             throw new UnsupportedOperationException("there are 4 clerks");
@@ -147,7 +142,6 @@ public final class UnsaidVerdicts {
         return court.addClerk();
     }
 
-    /** Lets a night go by, and returns how many verdicts are said in it. */
     public int night() throws UnsupportedOperationException {
         if (refusals.ofNight(court)) {
             throw new UnsupportedOperationException("it is the night 99");
@@ -156,7 +150,6 @@ public final class UnsaidVerdicts {
         return court.passNight();
     }
 
-    /** Returns a number of a juror. */
     public int jurorOf(int number, int what) throws IndexOutOfBoundsException, IllegalArgumentException {
         if (!court.jurors.has(number)) {
             throw new IndexOutOfBoundsException("there is no such juror");
@@ -177,7 +170,6 @@ public final class UnsaidVerdicts {
         }
     }
 
-    /** Returns a number of a case. */
     public int caseOf(int number, int what) throws IndexOutOfBoundsException, IllegalArgumentException {
         Cases cases = court.cases;
         if (!cases.has(number)) {
@@ -205,7 +197,6 @@ public final class UnsaidVerdicts {
         }
     }
 
-    /** Returns the vote that a juror would give in a case now, on its panel or not. */
     public int voteOf(int juror, int number) throws IndexOutOfBoundsException {
         if (!court.jurors.has(juror) || !court.cases.has(number)) {
             throw new IndexOutOfBoundsException("there is no such juror or case");
@@ -213,7 +204,6 @@ public final class UnsaidVerdicts {
         return court.jurors.opinion(juror, court.cases.merit[number]);
     }
 
-    /** Returns the verdict that the panel of a case would give now, told in one of two ways. */
     public int wouldBe(int number, boolean isAgain) throws IndexOutOfBoundsException, NoSuchElementException {
         if (!court.cases.has(number)) {
             throw new IndexOutOfBoundsException("there is no such case");
@@ -226,7 +216,6 @@ public final class UnsaidVerdicts {
         return isAgain ? court.jurors.verdictOfMiddle(panel, merit) : court.jurors.verdictByCount(panel, merit);
     }
 
-    /** Returns the load of a juror, told in one of two ways. */
     public int load(int juror, boolean isAgain) throws IndexOutOfBoundsException {
         if (!court.jurors.has(juror)) {
             throw new IndexOutOfBoundsException("there is no such juror");
@@ -234,7 +223,6 @@ public final class UnsaidVerdicts {
         return isAgain ? court.loadInRow(juror) : court.loadOf(juror);
     }
 
-    /** Returns a juror in the order in which they would be called. */
     public int callable(int place) throws NoSuchElementException {
         int juror = court.callableAt(place);
         if (juror == NONE) {
@@ -243,7 +231,6 @@ public final class UnsaidVerdicts {
         return juror;
     }
 
-    /** Returns how often the panel of a case would have to think its verdict over until it is another one. */
     public int thoughts(int number) throws IndexOutOfBoundsException, NoSuchElementException {
         if (!court.cases.has(number)) {
             throw new IndexOutOfBoundsException("there is no such case");
@@ -255,7 +242,6 @@ public final class UnsaidVerdicts {
         return imagined.thoughtsToTurn(court.cases.panel[number], court.cases.merit[number]);
     }
 
-    /** Tells whether a juror is on the panel of a case. */
     public boolean isOn(int juror, int number) throws IndexOutOfBoundsException {
         if (!court.jurors.has(juror) || !court.cases.has(number)) {
             throw new IndexOutOfBoundsException("there is no such juror or case");
@@ -263,7 +249,6 @@ public final class UnsaidVerdicts {
         return isIn(court.cases.panel[number], juror);
     }
 
-    /** Returns a case of the roll, told in one of two ways. */
     public int roll(int place, boolean isAgain) throws NoSuchElementException {
         int number = isAgain ? court.cases.takenOutAt(place) : court.cases.rowAt(place);
         if (number == NONE) {
@@ -272,12 +257,10 @@ public final class UnsaidVerdicts {
         return number;
     }
 
-    /** Returns how many cases are on the roll. */
     public int rolled() {
         return court.cases.rowLength;
     }
 
-    /** Returns the night in which a case would be taken from the roll by a clerk, if nothing but nights came. */
     public int wouldTake(int number) throws IndexOutOfBoundsException, NoSuchElementException {
         if (!court.cases.has(number)) {
             throw new IndexOutOfBoundsException("there is no such case");
@@ -289,12 +272,10 @@ public final class UnsaidVerdicts {
         return taken;
     }
 
-    /** Returns how many cases on the roll have a term that is earlier than the night that it is. */
     public int overdue() {
         return court.cases.rolledBefore(court.tonight);
     }
 
-    /** Returns the earliest term on the roll that is not before a night. */
     public int termFrom(int night) throws IllegalArgumentException, NoSuchElementException {
         if (night < 0 || night > LAST_NIGHT) {
             throw new IllegalArgumentException("a night is from 0 to 99");
@@ -306,7 +287,6 @@ public final class UnsaidVerdicts {
         return term;
     }
 
-    /** Returns in which night the verdict of a case becomes final, if nothing but nights comes. */
     public int finalIn(int number) throws IndexOutOfBoundsException, NoSuchElementException {
         Cases cases = court.cases;
         if (!cases.has(number)) {
@@ -318,7 +298,6 @@ public final class UnsaidVerdicts {
         return cases.isClosed(number) ? cases.closedIn[number] : cases.saidIn[number] + NIGHTS_UNTIL_FINAL;
     }
 
-    /** Returns a juror by doubt: the most first, of several the one with more leaning, then the lowest. */
     public int doubtful(int place) throws NoSuchElementException {
         int juror = court.jurors.doubtfulAt(place);
         if (juror == NONE) {
@@ -327,7 +306,6 @@ public final class UnsaidVerdicts {
         return juror;
     }
 
-    /** Writes the line of a case, in place of the line before, and returns its length. */
     public int line(int number) throws IndexOutOfBoundsException {
         if (!court.cases.has(number)) {
             throw new IndexOutOfBoundsException("there is no such case");
@@ -336,13 +314,11 @@ public final class UnsaidVerdicts {
         return written.length;
     }
 
-    /** Writes the line of the roll, in place of the line before, and returns its length. */
     public int rollLine() {
         written.writeRoll(court.cases);
         return written.length;
     }
 
-    /** Returns a character of the line, which is empty at first. */
     public char character(int index) throws IndexOutOfBoundsException {
         if (index < 0 || index >= written.length) {
             throw new IndexOutOfBoundsException("there is no such index");
@@ -350,7 +326,6 @@ public final class UnsaidVerdicts {
         return written.characters[index];
     }
 
-    /** Appends a character to the input, and returns the characters in it then. */
     public int append(char c) throws IllegalStateException {
         if (input.length >= MOST_CHARACTERS) {
             throw new IllegalStateException("the input contains 60 characters");
@@ -358,7 +333,6 @@ public final class UnsaidVerdicts {
         return input.add(c);
     }
 
-    /** Carries out the text in the input, which is empty afterwards, and returns the number of orders. */
     public int run() throws IllegalArgumentException, UnsupportedOperationException {
         errorAt = input.findError();
         int outcome = errorAt == NONE ? carryOutText() : WRONG;
@@ -372,12 +346,10 @@ public final class UnsaidVerdicts {
         return input.orders;
     }
 
-    /** Returns the error position of the text of the latest call of run, or -1. */
     public int errorPosition() {
         return errorAt;
     }
 
-    /** Returns the reason of the latest refusal, or its detail. */
     public int refusal(boolean isDetail) throws NoSuchElementException {
         if (refusals.reason == 0) {
             throw new NoSuchElementException("nothing was refused");
@@ -385,7 +357,6 @@ public final class UnsaidVerdicts {
         return isDetail ? refusals.detail : refusals.reason;
     }
 
-    /** Returns an account. */
     public int account(int what) throws IllegalArgumentException {
         switch (what) {
             case 0:
@@ -417,12 +388,10 @@ public final class UnsaidVerdicts {
         }
     }
 
-    /** Tells, by a second way, whether all is well. */
     public boolean isWell() {
         return court.areLoadsWell() && court.isRollWell() && court.areVotesWell() && court.areVerdictsWell();
     }
 
-    /** Returns the mean leaning of the jurors. */
     public double meanLeaning() throws ArithmeticException {
         int count = court.jurors.count;
         if (count == 0) {
@@ -431,7 +400,6 @@ public final class UnsaidVerdicts {
         return (double) court.jurors.sum(court.jurors.leaning) / (double) count;
     }
 
-    /** Returns the share of the verdicts said so far that were unsaid. */
     public float unsaidShare() throws ArithmeticException {
         if (court.said == 0) {
             throw new ArithmeticException("no verdict was said");
@@ -439,7 +407,6 @@ public final class UnsaidVerdicts {
         return (float) court.cases.sum(court.cases.unsaid) / (float) court.said;
     }
 
-    /** Undoes the latest change, and returns the number of changes that can still be undone. */
     public int undo() throws IllegalStateException {
         if (past.count == 0) {
             throw new IllegalStateException("no change can be undone");
@@ -448,14 +415,12 @@ public final class UnsaidVerdicts {
         return past.count;
     }
 
-    /** Takes a snapshot of what changes can change, and returns the cases. */
     public int save() {
         snapshot.copyFrom(court);
         hasSnapshot = true;
         return court.cases.count;
     }
 
-    /** Makes everything that changes can change as it is in the snapshot, and returns the cases. */
     public int restore() throws IllegalStateException {
         if (!hasSnapshot) {
             throw new IllegalStateException("there is no snapshot");
@@ -465,8 +430,8 @@ public final class UnsaidVerdicts {
         return court.cases.count;
     }
 
-    /** Carries out a text without an error as one change, or nothing of it, and returns the outcome. */
     private int carryOutText() {
+        // a later order may be refused, and then nothing of the text may stand
         past.note(court);
         input.rewind();
         int outcome = DONE;
@@ -496,12 +461,11 @@ public final class UnsaidVerdicts {
         return merit >= 0 && merit <= MOST_MERIT && term >= 0 && term <= LAST_NIGHT;
     }
 
-    /** Tells whether a set has a member, bit k standing for the number k. */
+    /** A set is a number whose bit k stands for the number k, as the document tells panels. */
     private static boolean isIn(int set, int member) {
         return (set >> member & 1) == 1;
     }
 
-    /** The jurors: a row for each of their numbers. */
     private static final class Jurors {
         final int[] leaning = new int[MOST_JURORS];
         final int[] doubt = new int[MOST_JURORS];
@@ -573,7 +537,6 @@ public final class UnsaidVerdicts {
             return merit + middle >= ENOUGH_MERIT ? FOR : AGAINST;
         }
 
-        /** Moves the leanings of a panel as by unsaying, and returns how many change. */
         int thinkOver(int panel, int merit) {
             int changed = 0;
             for (int j = 0; j < count; j++) {
@@ -588,7 +551,6 @@ public final class UnsaidVerdicts {
             return changed;
         }
 
-        /** Counts the votes of a panel, and moves its doubts as when this verdict is said. */
         void takeVerdict(int panel, int merit, int verdict) {
             for (int j = 0; j < count; j++) {
                 if (isIn(panel, j)) {
@@ -600,7 +562,7 @@ public final class UnsaidVerdicts {
             }
         }
 
-        /** Lets a panel think over until its verdict is another one. It changes the jurors: it is for a copy of them. */
+        /** This changes the jurors, so it is for a copy of them. */
         int thoughtsToTurn(int panel, int merit) {
             int atFirst = verdictByCount(panel, merit);
             for (int times = 1; times <= MOST_THOUGHTS; times++) {
@@ -623,7 +585,6 @@ public final class UnsaidVerdicts {
             return NONE;
         }
 
-        /** Returns the juror of a panel with the most doubt, of several the lowest. */
         int mostDoubtfulOf(int panel) {
             int found = NONE;
             for (int j = 0; j < count; j++) {
@@ -665,7 +626,7 @@ public final class UnsaidVerdicts {
         }
     }
 
-    /** The cases: a row for each of their numbers, and the roll as a row that is kept in order. */
+    /** The roll is kept as a row in order, for its first way must not be its second, which takes the first one out. */
     private static final class Cases {
         final int[] merit = new int[MOST_CASES];
         final int[] term = new int[MOST_CASES];
@@ -730,7 +691,6 @@ public final class UnsaidVerdicts {
             return hasPanel(number) && !hasVerdict(number);
         }
 
-        /** Tells whether a verdict that is not final was said so long ago that it becomes final in this night. */
         boolean isRipe(int number, int night) {
             return hasVerdict(number) && !isClosed(number) && saidIn[number] <= night - NIGHTS_UNTIL_FINAL;
         }
@@ -767,7 +727,6 @@ public final class UnsaidVerdicts {
             }
         }
 
-        /** Puts a case on the roll, behind those that come before it. */
         void enroll(int number) {
             if (rowLength >= MOST_CASES) {
                 return;
@@ -780,7 +739,7 @@ public final class UnsaidVerdicts {
             rowLength++;
         }
 
-        /** Takes a case off the roll, if it is on it. */
+        /** The verdict of an appeal is said of a case that is not on the roll: then there is nothing to strike. */
         void strike(int number) {
             int place = placeOnRoll(number);
             if (place == NONE) {
@@ -805,7 +764,6 @@ public final class UnsaidVerdicts {
             return place >= 0 && place < rowLength ? row[place] : NONE;
         }
 
-        /** Returns a case of the roll by taking the first one out again and again. */
         int takenOutAt(int place) {
             if (!has(place)) {
                 return NONE;
@@ -857,8 +815,12 @@ public final class UnsaidVerdicts {
         }
     }
 
-    /** All that changes can change. Its orders ask for no leave: Refusals is asked ahead of them. */
+    /**
+     * All that changes can change, so that undo and the snapshot copy it whole. Its orders ask for no leave: Refusals
+     * is asked ahead of them.
+     */
     private static final class Court {
+        // more than enough for ten cases, and those of nine jurors fit into a long
         private static final int TALLY_BITS = 6;
 
         final Jurors jurors = new Jurors();
@@ -885,7 +847,6 @@ public final class UnsaidVerdicts {
             return found;
         }
 
-        /** Returns the load of a juror by a tally of all panels of open cases, one behind the other. */
         int loadInRow(int juror) {
             long tally = 0;
             for (int k = 0; k < cases.count * MOST_JURORS; k++) {
@@ -991,7 +952,6 @@ public final class UnsaidVerdicts {
             return taken;
         }
 
-        /** Returns the night in which a clerk would take a case, or NEVER. */
         int takenIn(int number) {
             int place = cases.placeOnRoll(number);
             if (place == NONE || clerks < 1) {
@@ -1086,7 +1046,7 @@ public final class UnsaidVerdicts {
         }
     }
 
-    /** Tells whether something is refused, and keeps the latest reason with its detail. */
+    /** It stands outside of Court, for the latest reason is neither undone nor saved. */
     private static final class Refusals {
         int reason = 0;
         int detail = 0;
@@ -1164,7 +1124,7 @@ public final class UnsaidVerdicts {
             }
         }
 
-        /** Keeps a reason, and is true, for what is said with it is that something is refused. */
+        /** This is true always, so that the one who asks can answer with it that something is refused. */
         private boolean isFor(int newReason, int newDetail) {
             reason = newReason;
             detail = newDetail;
@@ -1172,7 +1132,10 @@ public final class UnsaidVerdicts {
         }
     }
 
-    /** The court as it was ahead of the latest changes: a ring of rows, of which one more than is kept takes notes. */
+    /**
+     * A ring of courts, all made at once, so that no change makes one. It has one more than can be undone, for a text
+     * that fails after all must not have written over the eldest of them.
+     */
     private static final class History {
         private final Court[] ring = new Court[MOST_UNDONE + 1];
         private int head = 0;
@@ -1209,7 +1172,7 @@ public final class UnsaidVerdicts {
         }
     }
 
-    /** The input, and a reader of its orders that stops where a text cannot go on. */
+    /** A text is read twice: nothing of it may be carried out until all of it is known to be without an error. */
     private static final class Text {
         private static final int NO_WORD = -1;
         private static final char END = 0;
@@ -1235,7 +1198,6 @@ public final class UnsaidVerdicts {
             at = 0;
         }
 
-        /** Counts the orders, and returns the error position or NONE. */
         int findError() {
             rewind();
             orders = 0;
@@ -1251,7 +1213,6 @@ public final class UnsaidVerdicts {
             return at;
         }
 
-        /** Reads the next order, with the semicolon ahead of it; false where the text cannot go on so. */
         boolean readOrder() {
             if (at > 0 && !take(';')) {
                 return false;
@@ -1349,7 +1310,7 @@ public final class UnsaidVerdicts {
             return isThere;
         }
 
-        /** Returns the next character; behind the last one END, which stands nowhere in a text. */
+        /** Behind the last character there is END, which no text has, so it is never what is looked for. */
         private char peek() {
             return at < length ? characters[at] : END;
         }
@@ -1359,7 +1320,6 @@ public final class UnsaidVerdicts {
         }
     }
 
-    /** The line that was written latest. */
     private static final class Line {
         private static final int MOST_LENGTH = 32;
 
@@ -1406,7 +1366,7 @@ public final class UnsaidVerdicts {
             add(']');
         }
 
-        /** Adds a number from 0 to 999. */
+        /** No number of a line is below 0 or above 999, so this needs neither a sign nor a loop. */
         private void addNumber(int number) {
             if (number >= 100) {
                 add((char) ('0' + number / 100));

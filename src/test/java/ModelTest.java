@@ -5,6 +5,7 @@ import java.util.List;
 public final class ModelTest {
     private static final int RUNS = 1500;
     private static final int CALLS = 512;
+    private static final int KINDS = 4;
     private static final String[] CHANGES = {"call", "vote", "unsay", "appeal"};
     private static final int[] ODD = {-1, -2147483648, 2147483647, 100, 60, 12, 9, 10, 31, 32};
     private static final String LETTERS = "jurocaselvtnyphigk ;-0123456789@";
@@ -34,9 +35,11 @@ public final class ModelTest {
         UnsaidVerdicts x = new UnsaidVerdicts();
         SlowCourt slow = new SlowCourt();
         List<String> played = new ArrayList<>();
-        int kind = run % 4;
+        int kind = run % KINDS;
+        // without a full court at first, most changes of most runs would be of cases that are not there
+        boolean isFull = run / KINDS % 2 == 1;
         while (played.size() < CALLS) {
-            for (String call : nextCalls(kind)) {
+            for (String call : isFull && played.isEmpty() ? opening() : nextCalls(kind)) {
                 if (played.size() == CALLS) {
                     break;
                 }
@@ -51,6 +54,20 @@ public final class ModelTest {
             }
         }
         return true;
+    }
+
+    private List<String> opening() {
+        List<String> calls = new ArrayList<>();
+        for (int k = 4 + next(6); k > 0; k--) {
+            calls.add("juror " + (next(19) - 9) + " " + next(10));
+        }
+        int cases = 3 + next(8);
+        for (int k = 0; k < cases; k++) {
+            calls.add("bring " + (30 + next(41)) + " " + next(100));
+            calls.add("call " + k);
+        }
+        calls.add("save");
+        return calls;
     }
 
     /** Some runs are mostly changes, some mostly questions, some mostly texts. */
